@@ -519,21 +519,16 @@ public final class PixelPress {
         }
         int negative = coder.code(level < 0 ? 1 : 0, SIGN_CONTEXT);
         int magnitude = level < 0 ? -level : level;
-        int digits = codeDigits(coder, digitsOf(magnitude));
+        int wanted = digitsOf(magnitude);
+        int digits = 1;
+        while (digits < MAX_DIGITS && coder.code(wanted > digits ? 1 : 0, DIGITS_CONTEXT + digits) == 1) {
+            digits++;
+        }
         int value = 1;
         for (int digit = digits - 2; digit >= 0; digit--) {
             value = value * 2 + coder.code((magnitude >> digit) & 1, NO_CONTEXT);
         }
         return negative == 1 ? -value : value;
-    }
-
-    private static int codeDigits(BitCoder coder, int digits) {
-        for (int k = 1; k < MAX_DIGITS; k++) {
-            if (coder.code(digits > k ? 1 : 0, DIGITS_CONTEXT + k) == 0) {
-                return k;
-            }
-        }
-        return MAX_DIGITS;
     }
 
     private static int digitsOf(int magnitude) {
@@ -1006,21 +1001,19 @@ public final class PixelPress {
             return chosen;
         }
 
-        private static boolean hasCounts(int context) {
-            return context >= 0 && context < CONTEXTS;
-        }
-
         private int splitFor(int context) {
             int range = high - low + 1;
-            if (!hasCounts(context)) {
-                return low - 1 + range / 2;
+            int zero = 1;
+            int one = 1;
+            if (context >= 0 && context < CONTEXTS) {
+                zero = zeros[context];
+                one = ones[context];
             }
-            int sum = zeros[context] + ones[context];
-            return low - 1 + (sum > 0 ? range * zeros[context] / sum : 0);
+            return zero + one > 0 ? low - 1 + range * zero / (zero + one) : low;
         }
 
         private void count(int bit, int context) {
-            if (!hasCounts(context)) {
+            if (context < 0 || context >= CONTEXTS) {
                 return;
             }
             if (bit == 0) {

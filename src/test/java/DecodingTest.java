@@ -257,6 +257,50 @@ public final class DecodingTest {
         dueSlice("no checksum", press, 0, 'e', 0);
     }
 
+    private void bitsBehindAPartAreZeros() {
+        PixelPress press = new PixelPress();
+        press.encode();
+        press.setByte(6, 0);
+        press.setByte(7, 0);
+        press.setByte(8, 255);
+        press.setByte(9, 255);
+        press.set(0, 0, 9);
+        check.due("decode of an empty part ahead of further bytes", 0, () -> press.decode(1));
+        dueRows("an empty part ahead of further bytes", press, 0, new int[8][8]);
+        press.setByte(6, 1);
+        press.setByte(8, 0);
+        check.due("decode of one zero byte ahead of a further one", 0, () -> press.decode(1));
+        dueRows("one zero byte ahead of a further one", press, 0, new int[8][8]);
+    }
+
+    private void partsMayHaveMoreThan255Bytes() {
+        PixelPress press = new PixelPress();
+        press.resize(16, 24);
+        press.encodePlain();
+        for (int index = 3; index < 387; index++) {
+            press.setByte(index, 0);
+        }
+        int[] front = {80, 8, 16, 1, 1, 1, 2, 0};
+        for (int index = 0; index < front.length; index++) {
+            press.setByte(index, front[index]);
+        }
+        press.setByte(8 + 256, 2);
+        press.setByte(8 + 257, 3);
+        press.setByte(7, (257 * 2 + 258 * 3) % 251);
+        check.due("decode of a part of 258 bytes and an empty one", 0, () -> press.decode(1));
+        dueSlice("a part of 258 bytes", press, 0, 'n', 1);
+        dueSlice("the empty part behind it", press, 1, 'n', 1);
+        press.setByte(8 + 258 + 2, 1);
+        check.due("decode with a wrong empty part", 1, () -> press.decode(1));
+        dueSlice("a wrong empty part", press, 1, 's', 0);
+        press.cut(8 + 258 + 2);
+        check.due("decode with a cut empty part", 1, () -> press.decode(1));
+        dueSlice("a cut empty part", press, 1, 'e', 0);
+        press.cut(8 + 257);
+        check.due("decode with a cut part of 258 bytes", 2, () -> press.decode(1));
+        dueSlice("a cut part of 258 bytes", press, 0, 'e', 0);
+    }
+
     private void sumsAreClamped() {
         PixelPress press = new PixelPress();
         press.fill(0, 0, 8, 8, 200);
@@ -399,6 +443,8 @@ public final class DecodingTest {
         test.cutPartsAreCutWithAllBehind();
         test.aWrongSizeMayCutAllBehind();
         test.anEmptyPartReadsAsZeros();
+        test.bitsBehindAPartAreZeros();
+        test.partsMayHaveMoreThan255Bytes();
         test.sumsAreClamped();
         test.plainSlicesAreWholeOrCut();
         test.furtherBytesHaveNoMeaning();

@@ -1,3 +1,4 @@
+import java.util.Arrays;
 import java.util.Random;
 
 /**
@@ -20,7 +21,7 @@ public final class ReferenceTest {
     private int both(String name, Object... arguments) {
         String got = real.answer(name, arguments);
         String want = wanted.answer(name, arguments);
-        history.append(name).append(java.util.Arrays.toString(arguments)).append(" = ").append(want).append('\n');
+        history.append(name).append(Arrays.toString(arguments)).append(" = ").append(want).append('\n');
         if (!got.equals(want)) {
             throw new AssertionError(name + " answered " + got + ", due is " + want);
         }
@@ -46,7 +47,8 @@ public final class ReferenceTest {
         int range = 1 + random.nextInt(256);
         switch (random.nextInt(6)) {
             case 0 -> both("ramp", near(0, 255), near(0, 255), near(0, 255));
-            case 1 -> both("fill", near(0, width - 1), near(0, height - 1), near(1, width), near(1, height), near(0, 255));
+            case 1 -> both("fill", near(0, width - 1), near(0, height - 1), near(1, width), near(1, height),
+                    near(0, 255));
             case 2 -> both("set", near(0, width - 1), near(0, height - 1), near(0, 255));
             case 3 -> {
                 for (int i = 0; i < width * height; i++) {
@@ -62,7 +64,8 @@ public final class ReferenceTest {
                 for (int i = 0; i < 4; i++) {
                     int x = random.nextInt(width);
                     int y = random.nextInt(height);
-                    both("fill", x, y, 1 + random.nextInt(width - x), 1 + random.nextInt(height - y), random.nextInt(range));
+                    both("fill", x, y, 1 + random.nextInt(width - x), 1 + random.nextInt(height - y),
+                            random.nextInt(range));
                 }
             }
         }
@@ -86,7 +89,7 @@ public final class ReferenceTest {
 
     private void damage() {
         int size = wanted.number("size");
-        switch (random.nextInt(8)) {
+        switch (random.nextInt(9)) {
             case 0 -> both("cut", near(0, size));
             case 1 -> both("cut", Math.max(0, size - random.nextInt(20)));
             case 2 -> both("setByte", near(0, 6), near(0, 32));
@@ -95,6 +98,15 @@ public final class ReferenceTest {
                 if (size > 8) {
                     both("setByte", 1, 1 + random.nextInt(16));
                     both("setByte", 2, 1 + random.nextInt(24));
+                    repairChecksums();
+                }
+            }
+            case 5 -> {
+                // A part that ends ahead of bytes of its own, or is as large as no coder makes one.
+                if (size > 10) {
+                    int at = 4 + wanted.number("byteAt", 3);
+                    both("setByte", at, random.nextInt(2));
+                    both("setByte", at + 1, random.nextInt(12));
                     repairChecksums();
                 }
             }
