@@ -390,7 +390,8 @@ final class ReferencePress {
         }
     }
 
-    private static final class Coder {
+    /** Package-visible, so that tests can write parts of their own. */
+    static final class Coder {
         final Counts counts = new Counts();
         final StringBuilder bits = new StringBuilder();
         int low = 0;
@@ -466,16 +467,20 @@ final class ReferencePress {
         for (List<BlockRecord> tile : tiles) {
             coder.put(tile.size() == 4 ? 1 : 0, 0);
             for (BlockRecord b : tile) {
-                coder.put(b.mode / 2, 1);
-                coder.put(b.mode % 2, 2 + b.mode / 2);
-                for (int row = 0; row < b.size; row++) {
-                    for (int column = 0; column < b.size; column++) {
-                        putLevel(coder, b.levels[row][column], nonZero(b.levels, row, column));
-                    }
-                }
+                putBlock(coder, b);
             }
         }
         return coder.end();
+    }
+
+    static void putBlock(Coder coder, BlockRecord b) {
+        coder.put(b.mode / 2, 1);
+        coder.put(b.mode % 2, 2 + b.mode / 2);
+        for (int row = 0; row < b.size; row++) {
+            for (int column = 0; column < b.size; column++) {
+                putLevel(coder, b.levels[row][column], nonZero(b.levels, row, column));
+            }
+        }
     }
 
     private static void putLevel(Coder coder, int level, int context) {
