@@ -760,18 +760,20 @@ public final class PixelPress {
         }
 
         void makeTile(int[] target, int x, int y) {
-            int costOfFour = makeBlocks(target, x, y, SMALL_BLOCK);
-            int costOfOne = makeBlocks(target, x, y, TILE);
+            int costOfFour = makeBlocks(target, x, y, true);
+            int costOfOne = makeBlocks(target, x, y, false);
             if (costOfFour < costOfOne) {
                 // The one block has replaced the four in this layer, so they are made again.
-                makeBlocks(target, x, y, SMALL_BLOCK);
+                makeBlocks(target, x, y, true);
                 blockCount += 4;
             } else {
                 blockCount++;
             }
         }
 
-        private int makeBlocks(int[] target, int x, int y, int size) {
+        /** Makes the four small blocks of a tile, or its one large block, and answers the sum of the costs. */
+        private int makeBlocks(int[] target, int x, int y, boolean areSmall) {
+            int size = areSmall ? SMALL_BLOCK : TILE;
             int sum = 0;
             setSizeAt(x, y, size);
             for (int down = 0; down < TILE; down += size) {
@@ -794,10 +796,11 @@ public final class PixelPress {
                 }
             }
             transform.split(size);
+            int divisor = Math.max(1, step);
             int sum = BASE_COST;
             for (int row = 0; row < size; row++) {
                 for (int column = 0; column < size; column++) {
-                    int value = transform.places[row * TILE + column] / step;
+                    int value = transform.places[row * TILE + column] / divisor;
                     levels[(y + row) * MAX_WIDTH + x + column] = value;
                     sum += DIGIT_COST * digitsOf(value < 0 ? -value : value);
                 }
@@ -874,25 +877,20 @@ public final class PixelPress {
 
         int bestMode(int[] target, int x, int y) {
             int best = 0;
-            int least = distance(0, target, x, y);
-            for (int mode = 1; mode < MODES; mode++) {
-                int sum = distance(mode, target, x, y);
-                if (sum < least) {
+            int least = 0;
+            for (int mode = 0; mode < MODES; mode++) {
+                int sum = 0;
+                for (int row = 0; row < size; row++) {
+                    for (int column = 0; column < size; column++) {
+                        sum += Math.abs(target[(y + row) * MAX_WIDTH + x + column] - of(mode, row, column));
+                    }
+                }
+                if (mode == 0 || sum < least) {
                     best = mode;
                     least = sum;
                 }
             }
             return best;
-        }
-
-        private int distance(int mode, int[] target, int x, int y) {
-            int sum = 0;
-            for (int row = 0; row < size; row++) {
-                for (int column = 0; column < size; column++) {
-                    sum += Math.abs(target[(y + row) * MAX_WIDTH + x + column] - of(mode, row, column));
-                }
-            }
-            return sum;
         }
     }
 
